@@ -263,6 +263,17 @@ public final class PromiseTests {
         x.left();
         due("path of 200 bytes", go(x, " ".repeat(199) + "l"), 1);
         due("path of 200 letters h", go(x, "h".repeat(200)), 200);
+        // nothing of one path is left for the next one
+        due("path that ends within a bracket", go(x, "[l]99"), 20);
+        due("path with a bracket", go(x, "[u]3"), 3);
+        due("path that a number could follow", go(x, "l"), 1);
+        due("path of a number alone", go(x, "2"), -1000);
+        feedText(x, "hl123");
+        x.end(3);
+        due("path of a tape that was cut within a number", x.path(), 2);
+        feedText(x, "h[l]");
+        x.end(3);
+        due("path of a tape that was cut within a bracket", x.path(), -1003);
     }
 
     private static void pathFaults() {
@@ -278,6 +289,7 @@ public final class PromiseTests {
         dueFault(" 2", 1, 1);
         dueFault("h2", 1, 1);
         dueFault("h 2", 2, 1);
+        dueFault("lh2", 2, 1);
         dueFault("h100", 1, 1);
         dueFault("h0", 1, 1);
         dueFault("l2 2", 3, 1);
@@ -603,8 +615,10 @@ public final class PromiseTests {
             }
         }
         x.go(1, 1);
-        x.round();
+        due("least without a round ahead of it", x.least(), 5);
         promise = "15";
+        dueForm(x, 5, 9, -7);
+        x.round();
         dueForm(x, 5, 9, -7);
     }
 
@@ -655,6 +669,7 @@ public final class PromiseTests {
     private static void triplesAndWith() {
         MarkovTree x = new MarkovTree();
         promise = "22";
+        due("triples(433) as the first call", new MarkovTree().triples(433), 1);
         for (int i = 2; i < 152; i++) {
             due("triples of rank " + i, x.triples(x.markov(i)), 1);
         }
@@ -662,6 +677,7 @@ public final class PromiseTests {
             due("triples(" + n + ")", x.triples(n), -1);
         }
         promise = "23";
+        due("with(433, 1) as the first call", new MarkovTree().with(433, 1), 29);
         long[][] want = {{5, 1, 2, 2}, {13, 1, 5, 3}, {29, 2, 5, 3}, {34, 1, 13, 4}, {194, 5, 13, 4}, {433, 5, 29, 4}, {169, 2, 29, 4},
             {1325, 13, 34, 5}, {7561, 13, 194, 5}, {fibonacci(57), 1, fibonacci(55), 28}};
         for (long[] w : want) {
@@ -782,6 +798,9 @@ public final class PromiseTests {
             due("near(" + n[0] + ", false)", x.near(n[0], false), n[1]);
             due("near(" + n[0] + ", true)", x.near(n[0], true), n[2]);
         }
+        x.unmark();
+        due("near(434, true) without the last MARK", x.near(434, true), -1);
+        due("near(434, false) without the last MARK", x.near(Long.MAX_VALUE, false), 433);
         MarkovTree empty = new MarkovTree();
         due("near(5, true) without MARKS", empty.near(5, true), -1);
         due("near(5, false) without MARKS", empty.near(5, false), -1);
@@ -814,7 +833,7 @@ public final class PromiseTests {
         MarkovTree x = new MarkovTree();
         due("byteAt(0) ahead of any", x.byteAt(0), -1);
         dueTold(x, "at 1 by 1", "");
-        String[] paths = {"l", "r", "l2", "l20", "r20", "r9", "l10", "lr", "rlrlr", "l2r", "l6r2", "rl9", "l3r4", "r2lr"};
+        String[] paths = {"l", "r", "l2", "l20", "r20", "r9", "l10", "r18", "l19", "lr", "rlrlr", "l2r", "l6r2", "rl9", "l3r4", "r2lr"};
         for (String p : paths) {
             go(x, "h" + p);
             dueTold(x, "after " + p, p);
@@ -943,55 +962,61 @@ public final class PromiseTests {
 
     private static void undoOfEachAct() {
         promise = "33";
+        dueUndone("left()", x -> x.left());
+        dueUndone("right()", x -> x.right());
+        dueUndone("up()", x -> x.up());
+        dueUndone("go(1, 1)", x -> x.go(1, 1));
+        dueUndone("jump(0)", x -> x.jump(0));
+        dueUndone("unmark()", x -> x.unmark());
+        dueUndone("drawn(60, 5)", x -> x.drawn(60, 5));
+        dueUndone("path of lr", x -> goOnTape(x, "lr"));
+        dueUndone("path of lu", x -> goOnTape(x, "lu"));
+        dueUndone("path of h", x -> goOnTape(x, "h"));
+        dueUndone("path of l99", x -> goOnTape(x, "l99"));
+        // the one ahead, mark(), is undone there too
+    }
+
+    private interface Act {
+        long answer(MarkovTree x);
+    }
+
+    private static long goOnTape(MarkovTree x, String text) {
+        x.end(0);
+        long answer = go(x, text);
+        x.feed(0, 0, 0, 0, 0);
+        return answer;
+    }
+
+    /** An act from a PLACE and MARKS that no act ahead of it had noted. */
+    private static void dueUndone(String call, Act act) {
         MarkovTree x = new MarkovTree();
         x.go(2, 3);
         x.mark();
         x.go(3, 2);
         x.feed(0, 0, 0, 0, 0);
         x.told();
-        int acts = x.now(8);
-        dueUndone(x, x.left() > 0, acts);
-        dueUndone(x, x.right() > 0, acts);
-        dueUndone(x, x.up() > 0, acts);
-        dueUndone(x, x.go(1, 1) == 0, acts);
-        dueUndone(x, x.jump(0) == 2, acts);
-        dueUndone(x, x.mark() == 0, acts);
         x.mark();
-        dueUndoneWithMark(x, x.unmark() == 0, acts + 1);
-        x.undo();
-        dueUndone(x, x.drawn(60, 5) > 0, acts);
-        x.end(0);
-        dueUndoneKeepingTape(x, go(x, "lr") == 2, acts, 0);
-        dueUndoneKeepingTape(x, go(x, "lu") == 2, acts, 0);
-        dueUndoneKeepingTape(x, go(x, "h") == 1, acts, 0);
-        dueUndoneKeepingTape(x, go(x, "l99") > 0, acts, 0);
-        due("path of an empty tape", x.path(), 0);
-        due("now(8) after path of nothing", x.now(8), acts);
-        due("byteAt(0) stays", x.byteAt(0), 'r');
-    }
-
-    private static void dueUndone(MarkovTree x, boolean done, int acts) {
-        dueUndoneKeepingTape(x, done, acts, 20);
-    }
-
-    private static void dueUndoneKeepingTape(MarkovTree x, boolean done, int acts, int tape) {
-        due("an act", done, true);
-        due("now(8)", x.now(8), acts + 1);
-        due("undo", x.undo(), acts);
+        due(call + " is done", act.answer(x) >= 0, true);
+        due("now(8) after " + call, x.now(8), 5);
+        due("undo of " + call, x.undo(), 4);
         duePlace(x, 3, 2);
         due("now(6)", x.now(6), 2);
         due("now(2)", x.now(2), 1);
-        due("now(7)", x.now(7), 1);
+        due("now(7) after undo of " + call, x.now(7), 2);
         due("marked(0, 0)", x.marked(0, 0), 194);
-        due("now(9)", x.now(9), tape);
-    }
-
-    private static void dueUndoneWithMark(MarkovTree x, boolean done, int acts) {
-        due("an act", done, true);
-        due("now(7) after unmark", x.now(7), 1);
-        due("undo", x.undo(), acts);
-        due("now(7)", x.now(7), 2);
         due("marked(1, 0)", x.marked(1, 0), 433);
+        due("now(9)", x.now(9), 20);
+        due("byteAt(0)", x.byteAt(0), 'r');
+        due("undo of mark()", x.undo(), 3);
+        due("now(7)", x.now(7), 1);
+        duePlace(x, 3, 2);
+        due("undo of the act ahead", x.undo(), 2);
+        duePlace(x, 2, 3);
+        due("undo of the act ahead", x.undo(), 1);
+        due("now(7)", x.now(7), 0);
+        due("undo of the first act", x.undo(), 0);
+        duePlace(x, 1, 1);
+        due("undo of no more", x.undo(), -1);
     }
 
     private static void imageAndRestore() {
