@@ -21,7 +21,7 @@ public final class MarkovTree {
     private final State[] images;
     private final boolean[] imageKept;
     private final Telling telling;
-    private final Matrix product;
+    private final Word word;
     private final Form quadratic;
     private final Table table;
 
@@ -36,7 +36,7 @@ public final class MarkovTree {
         }
         imageKept = new boolean[IMAGES];
         telling = new Telling();
-        product = new Matrix();
+        word = new Word();
         quadratic = new Form();
         table = new Table();
     }
@@ -167,7 +167,7 @@ public final class MarkovTree {
         if (i < 1 || i > place.together()) {
             return NONE;
         }
-        return letterIsA(place.p(), place.q(), i) ? 'a' : 'b';
+        return Word.letterIsA(place.p(), place.q(), i) ? 'a' : 'b';
     }
 
     public int cut() {
@@ -185,22 +185,13 @@ public final class MarkovTree {
         if (i < 0 || i > 1 || j < 0 || j > 1) {
             throw new NoSuchElementException();
         }
-        product.setWord(state.place().p(), state.place().q());
-        return product.entry(i, j);
-    }
-
-    private static boolean letterIsA(int p, int q, int i) {
-        int n = p + q;
-        // 0 by 1 has the WORD a, which the rule of the remainders does not give
-        if (p == 0 || n < 1) {
-            return true;
-        }
-        return i * p % n > (i - 1) * p % n;
+        word.setTo(state.place().p(), state.place().q());
+        return word.entry(i, j);
     }
 
     private long numberOf(int p, int q) {
-        product.setWord(p, q);
-        return product.entry(0, 1);
+        word.setTo(p, q);
+        return word.entry(0, 1);
     }
 
     private long numberHere() {
@@ -245,7 +236,7 @@ public final class MarkovTree {
         if (m > MOST_FOR_FORM) {
             return false;
         }
-        quadratic.set(m, product.entry(1, 1));
+        quadratic.set(m, word.entry(1, 1));
         return true;
     }
 
@@ -1022,14 +1013,27 @@ public final class MarkovTree {
         }
     }
 
-    /** The MATRIX of a WORD. */
-    private static final class Matrix {
+    /** The WORD of a fraction, as its MATRIX. */
+    private static final class Word {
         private long a;
         private long b;
         private long c;
         private long d;
 
-        void setWord(int p, int q) {
+        Word() {
+            setTo(0, 1);
+        }
+
+        static boolean letterIsA(int p, int q, int i) {
+            int n = p + q;
+            // 0 by 1 has the WORD a, which the rule of the remainders does not give
+            if (p == 0 || n < 1) {
+                return true;
+            }
+            return i * p % n > (i - 1) * p % n;
+        }
+
+        void setTo(int p, int q) {
             a = 1;
             b = 0;
             c = 0;
@@ -1072,6 +1076,11 @@ public final class MarkovTree {
         private long root;
         private int roundSize;
         private long roundLeast;
+
+        Form() {
+            // that of 1 by 1
+            set(5, 3);
+        }
 
         /** From the NUMBER m (5 to 1,000,000,000: the discriminant is a long then) and k of its MATRIX. */
         void set(long m, long k) {
