@@ -1,13 +1,7 @@
 import java.math.BigInteger;
-import java.util.NoSuchElementException;
 
 /** For each promise of the document: ordinary inputs, the edges that it names, wrong inputs. */
-public final class PromiseTests {
-    private static final long BOUND = 1000000000000L;
-    private static String promise = "";
-    private static int checks = 0;
-    private static int wrong = 0;
-
+public final class PromiseTests extends Checks {
     public static void main(String[] args) {
         newObject();
         tape();
@@ -38,98 +32,13 @@ public final class PromiseTests {
         undoOfEachAct();
         imageAndRestore();
         throwingChangesNothing();
-        System.out.println(checks + " checks, " + wrong + " wrong");
-        if (wrong != 0) {
-            System.exit(1);
-        }
-    }
-
-    // ---- what the tests are written with
-
-    private static void due(String call, long got, long want) {
-        checks++;
-        if (got != want) {
-            wrong++;
-            System.out.println("promise " + promise + ": " + call + " answered " + got + ", due is " + want);
-        }
-    }
-
-    private static void due(String call, boolean got, boolean want) {
-        due(call, got ? 1 : 0, want ? 1 : 0);
-    }
-
-    private interface Call {
-        long answer();
-    }
-
-    private static void dueNoSuch(String call, Call c) {
-        checks++;
-        try {
-            long got = c.answer();
-            wrong++;
-            System.out.println("promise " + promise + ": " + call + " answered " + got + ", due is NoSuchElementException");
-        } catch (NoSuchElementException e) {
-            // as it should be
-        }
-    }
-
-    private static void feedBytes(MarkovTree x, int[] bytes) {
-        int before = x.now(9);
-        for (int i = 0; i < bytes.length; i += 20) {
-            int[] n = new int[5];
-            for (int j = 0; j < 20; j++) {
-                int b = i + j < bytes.length ? bytes[i + j] & 255 : 'x';
-                n[j / 4] = n[j / 4] << 8 | b;
-            }
-            x.feed(n[0], n[1], n[2], n[3], n[4]);
-        }
-        x.end(before + bytes.length);
-    }
-
-    private static void feedText(MarkovTree x, String text) {
-        feedBytes(x, text.chars().toArray());
-    }
-
-    private static int go(MarkovTree x, String text) {
-        feedText(x, text);
-        return x.path();
-    }
-
-    private static void duePath(String text, int answer, String path) {
-        MarkovTree x = new MarkovTree();
-        due("path of " + text, go(x, text), answer);
-        due("fault of " + text, x.fault(), 0);
-        dueTold(x, "after " + text, path);
-    }
-
-    private static void dueTold(MarkovTree x, String when, String path) {
-        due("told " + when, x.told(), path.length());
-        for (int i = 0; i < path.length(); i++) {
-            due("byteAt " + i + " " + when, x.byteAt(i), path.charAt(i));
-        }
-        due("byteAt behind the last " + when, x.byteAt(path.length()), -1);
-    }
-
-    private static void dueFault(String text, int place, int kind) {
-        MarkovTree x = new MarkovTree();
-        x.go(2, 3);
-        due("path of " + text, go(x, text), -1000 - place);
-        due("fault of " + text, x.fault(), kind);
-        due("tape after " + text, x.now(9), 0);
-        due("p after " + text, x.now(0), 2);
-        due("q after " + text, x.now(1), 3);
-        due("acts after " + text, x.now(8), 1);
-    }
-
-    private static void duePlace(MarkovTree x, int p, int q) {
-        due("now(0)", x.now(0), p);
-        due("now(1)", x.now(1), q);
+        tellAll();
     }
 
     // ---- the promises
 
     private static void newObject() {
-        promise = "1";
+        about = "promise 1";
         MarkovTree x = new MarkovTree();
         int[] want = {1, 1, 0, 1, 1, 0, 0, 0, 0, 0};
         for (int i = 0; i < want.length; i++) {
@@ -145,14 +54,14 @@ public final class PromiseTests {
     }
 
     private static void tape() {
-        promise = "2";
+        about = "promise 2";
         MarkovTree x = new MarkovTree();
         for (int i = 1; i <= 12; i++) {
             due("feed " + i, x.feed(0, 0, 0, 0, 0), 20 * i);
         }
         due("feed beyond 240", x.feed(0, 0, 0, 0, 0), -1);
         due("now(9)", x.now(9), 240);
-        promise = "3";
+        about = "promise 3";
         due("end(241)", x.end(241), false);
         due("end(-1)", x.end(-1), false);
         due("end(MIN)", x.end(Integer.MIN_VALUE), false);
@@ -160,16 +69,16 @@ public final class PromiseTests {
         due("now(9)", x.now(9), 240);
         due("end(240)", x.end(240), true);
         due("end(221)", x.end(221), true);
-        promise = "2";
+        about = "promise 2";
         due("feed to 241", x.feed(0, 0, 0, 0, 0), -1);
         due("now(9)", x.now(9), 221);
         x.end(220);
         due("feed to 240", x.feed(0, 0, 0, 0, 0), 240);
-        promise = "3";
+        about = "promise 3";
         due("end(0)", x.end(0), true);
         due("end(1) of an empty tape", x.end(1), false);
         due("end(0) of an empty tape", x.end(0), true);
-        promise = "2";
+        about = "promise 2";
         // the order of the bytes: l r u r l, then 15 blanks
         x.feed(0x6c727572, 0x6c202020, 0x20202020, 0x20202020, 0x20202020);
         due("path", x.path(), 5);
@@ -188,7 +97,7 @@ public final class PromiseTests {
     }
 
     private static void pathSteps() {
-        promise = "4";
+        about = "promise 4";
         duePath("", 0, "");
         duePath("l", 1, "l");
         duePath("r", 1, "r");
@@ -205,13 +114,13 @@ public final class PromiseTests {
         duePath("l2u3r", 4, "");
         MarkovTree x = new MarkovTree();
         x.go(1, 4);
-        due("path from a PLACE", go(x, "r"), 1);
+        due("path from a PLACE", pathOf(x, "r"), 1);
         duePlace(x, 2, 7);
         due("tape", x.now(9), 0);
     }
 
     private static void pathNumbersAndBlanks() {
-        promise = "4";
+        about = "promise 4";
         duePath("l20", 20, "l20");
         duePath("l21", 20, "l20");
         duePath("r99", 20, "r20");
@@ -225,7 +134,7 @@ public final class PromiseTests {
     }
 
     private static void pathBrackets() {
-        promise = "4";
+        about = "promise 4";
         duePath("[]", 0, "");
         duePath("[]5l", 1, "l");
         duePath("[ ]5l", 1, "l");
@@ -248,7 +157,7 @@ public final class PromiseTests {
     }
 
     private static void pathLimits() {
-        promise = "4";
+        about = "promise 4";
         duePath("[lu]99[lu]99[lu]52", 500, "");
         duePath("[lu]99[lu]99[lu]53", 500, "");
         duePath("[lu]99[lu]99[lu]51h", 499, "");
@@ -261,13 +170,13 @@ public final class PromiseTests {
         duePath("lu".repeat(100), 200, "");
         MarkovTree x = new MarkovTree();
         x.left();
-        due("path of 200 bytes", go(x, " ".repeat(199) + "l"), 1);
-        due("path of 200 letters h", go(x, "h".repeat(200)), 200);
+        due("path of 200 bytes", pathOf(x, " ".repeat(199) + "l"), 1);
+        due("path of 200 letters h", pathOf(x, "h".repeat(200)), 200);
         // nothing of one path is left for the next one
-        due("path that ends within a bracket", go(x, "[l]99"), 20);
-        due("path with a bracket", go(x, "[u]3"), 3);
-        due("path that a number could follow", go(x, "l"), 1);
-        due("path of a number alone", go(x, "2"), -1000);
+        due("path that ends within a bracket", pathOf(x, "[l]99"), 20);
+        due("path with a bracket", pathOf(x, "[u]3"), 3);
+        due("path that a number could follow", pathOf(x, "l"), 1);
+        due("path of a number alone", pathOf(x, "2"), -1000);
         feedText(x, "hl123");
         x.end(3);
         due("path of a tape that was cut within a number", x.path(), 2);
@@ -277,7 +186,7 @@ public final class PromiseTests {
     }
 
     private static void pathFaults() {
-        promise = "4";
+        about = "promise 4";
         dueFault("x", 0, 1);
         dueFault("lrx", 2, 1);
         dueFault("L", 0, 1);
@@ -309,7 +218,7 @@ public final class PromiseTests {
     }
 
     private static void faultKinds() {
-        promise = "5";
+        about = "promise 5";
         due("fault ahead of any path", new MarkovTree().fault(), 0);
         dueFault("l0", 1, 2);
         dueFault("l00", 1, 2);
@@ -336,22 +245,22 @@ public final class PromiseTests {
         dueFault(" ".repeat(199) + "[", 200, 1);
         dueFault(" ".repeat(199) + "x", 199, 1);
         MarkovTree x = new MarkovTree();
-        go(x, "l0");
+        pathOf(x, "l0");
         due("fault", x.fault(), 2);
         due("fault again", x.fault(), 2);
         x.left();
         x.undo();
         due("fault after acts", x.fault(), 2);
-        go(x, "l");
+        pathOf(x, "l");
         due("fault after a path without", x.fault(), 0);
-        go(x, "[[[[");
+        pathOf(x, "[[[[");
         due("fault", x.fault(), 3);
-        go(x, "");
+        pathOf(x, "");
         due("fault after an empty path", x.fault(), 0);
     }
 
     private static void now() {
-        promise = "6";
+        about = "promise 6";
         MarkovTree x = new MarkovTree();
         x.go(5, 7);
         x.mark();
@@ -366,7 +275,7 @@ public final class PromiseTests {
     }
 
     private static void leftRightUp() {
-        promise = "7";
+        about = "promise 7";
         MarkovTree x = new MarkovTree();
         for (int i = 3; i <= 22; i++) {
             due("left to " + i, x.left(), i);
@@ -377,7 +286,7 @@ public final class PromiseTests {
         x = new MarkovTree();
         x.go(7, 8);
         due("left to 13 by 15", x.left(), -1);
-        promise = "8";
+        about = "promise 8";
         due("right to 8 by 9", x.right(), 17);
         x = new MarkovTree();
         for (int i = 3; i <= 22; i++) {
@@ -393,7 +302,7 @@ public final class PromiseTests {
         due("now(3)", x.now(3), 2);
         due("now(4)", x.now(4), 1);
         due("now(5)", x.now(5), 1);
-        promise = "9";
+        about = "promise 9";
         x.left();
         due("up", x.up(), 5);
         due("up", x.up(), 3);
@@ -408,7 +317,7 @@ public final class PromiseTests {
     }
 
     private static void go() {
-        promise = "10";
+        about = "promise 10";
         MarkovTree x = new MarkovTree();
         int[][] none = {{1, 1}, {0, 1}, {1, 0}, {0, 0}, {2, 2}, {3, 6}, {22, 1}, {1, 22}, {12, 11}, {-1, 2}, {2, -1}, {-1, -1},
             {Integer.MAX_VALUE, 1}, {1, Integer.MAX_VALUE}, {Integer.MAX_VALUE, Integer.MAX_VALUE}, {Integer.MIN_VALUE, 3},
@@ -431,7 +340,7 @@ public final class PromiseTests {
     }
 
     private static void triple() {
-        promise = "11";
+        about = "promise 11";
         MarkovTree x = new MarkovTree();
         long[][] want = {{1, 1, 1, 2, 5}, {1, 2, 1, 5, 13}, {2, 1, 5, 2, 29}, {2, 3, 13, 5, 194}, {3, 2, 5, 29, 433}, {1, 3, 1, 13, 34},
             {3, 1, 29, 2, 169}};
@@ -453,17 +362,6 @@ public final class PromiseTests {
         }
     }
 
-    private static long pell(int n) {
-        long a = 0;
-        long b = 1;
-        for (int i = 0; i < n; i++) {
-            long next = 2 * b + a;
-            a = b;
-            b = next;
-        }
-        return a;
-    }
-
     private static void letterAndCut() {
         dueWord(1, 1, "ab", 1);
         dueWord(1, 2, "aab", 1);
@@ -476,7 +374,7 @@ public final class PromiseTests {
     }
 
     private static void dueWord(int p, int q, String word, int cut) {
-        promise = "12";
+        about = "promise 12";
         MarkovTree x = new MarkovTree();
         x.go(p, q);
         for (int i = 1; i <= word.length(); i++) {
@@ -485,12 +383,12 @@ public final class PromiseTests {
         for (int i : new int[] {0, -1, word.length() + 1, Integer.MIN_VALUE, Integer.MAX_VALUE}) {
             due("letter(" + i + ") of " + p + " by " + q, x.letter(i), -1);
         }
-        promise = "13";
+        about = "promise 13";
         due("cut of " + p + " by " + q, x.cut(), cut);
     }
 
     private static void matrix() {
-        promise = "14";
+        about = "promise 14";
         MarkovTree x = new MarkovTree();
         dueMatrix(x, 12, 5, 7, 3);
         x.left();
@@ -501,13 +399,10 @@ public final class PromiseTests {
         for (int[] ij : none) {
             dueNoSuch("matrix(" + ij[0] + ", " + ij[1] + ")", () -> x.matrix(ij[0], ij[1]));
         }
-        for (int p = 1; p < 22; p++) {
-            for (int q = 1; p + q <= 22; q++) {
-                x.go(p, q);
-                due("3 times the NUMBER at " + p + " by " + q, x.matrix(0, 0) + x.matrix(1, 1), 3 * x.triple(2));
-                due("the NUMBER at " + p + " by " + q, x.matrix(0, 1), x.triple(2));
-            }
-        }
+        atEach((y, p, q) -> {
+            due("3 times the NUMBER at " + p + " by " + q, y.matrix(0, 0) + y.matrix(1, 1), 3 * y.triple(2));
+            due("the NUMBER at " + p + " by " + q, y.matrix(0, 1), y.triple(2));
+        });
     }
 
     private static void dueMatrix(MarkovTree x, long a, long b, long c, long d) {
@@ -517,32 +412,8 @@ public final class PromiseTests {
         due("matrix(1, 1)", x.matrix(1, 1), d);
     }
 
-    /** The PLACE with the greatest NUMBER that has a FORM, and the one with the least that has none. */
-    private static int[][] formEdges(MarkovTree x) {
-        int[] last = {1, 1};
-        int[] first = {21, 1};
-        for (int p = 1; p < 22; p++) {
-            for (int q = 1; p + q <= 22; q++) {
-                if (x.go(p, q) >= 0) {
-                    long m = x.triple(2);
-                    if (m <= 1000000000L) {
-                        last = numberAt(x, last) < m ? new int[] {p, q} : last;
-                    } else {
-                        first = numberAt(x, first) > m ? new int[] {p, q} : first;
-                    }
-                }
-            }
-        }
-        return new int[][] {last, first};
-    }
-
-    private static long numberAt(MarkovTree x, int[] f) {
-        x.go(f[0], f[1]);
-        return x.triple(2);
-    }
-
     private static void form() {
-        promise = "15";
+        about = "promise 15";
         MarkovTree x = new MarkovTree();
         dueForm(x, 5, 9, -7);
         x.left();
@@ -552,12 +423,9 @@ public final class PromiseTests {
         for (int what : new int[] {-1, 3, Integer.MIN_VALUE, Integer.MAX_VALUE}) {
             dueNoSuch("form(" + what + ")", () -> x.form(what));
         }
-        int[][] edges = formEdges(x);
-        long m = numberAt(x, edges[0]);
-        due("form(0) of the greatest", x.form(0), m);
-        due("form(1) of the greatest", x.form(1), 3 * m - 2 * x.matrix(1, 1));
-        due("form(2) of the greatest", x.form(2), -x.matrix(1, 0));
-        numberAt(x, edges[1]);
+        x.go(7, 10);
+        dueForm(x, 981277621L, 3 * 981277621L - 2 * 601909025L, -1436520169L);
+        x.go(1, 21);
         for (int what = -1; what <= 3; what++) {
             int w = what;
             dueNoSuch("form(" + w + ") beyond the bound", () -> x.form(w));
@@ -571,7 +439,7 @@ public final class PromiseTests {
     }
 
     private static void value() {
-        promise = "16";
+        about = "promise 16";
         MarkovTree x = new MarkovTree();
         due("value(1, 0)", x.value(1, 0), 5);
         due("value(0, 1)", x.value(0, 1), -7);
@@ -584,39 +452,33 @@ public final class PromiseTests {
         for (int[] xy : hidden) {
             due("value(" + xy[0] + ", " + xy[1] + ")", x.value(xy[0], xy[1]), MarkovTree.HIDDEN);
         }
-        int[][] edges = formEdges(x);
-        numberAt(x, edges[0]);
+        x.go(7, 10);
         long a = x.form(0);
         long b = x.form(1);
         long c = x.form(2);
         due("value(999, -999) of the greatest", x.value(999, -999), (a - b + c) * 998001);
         due("value(-999, -998) of the greatest", x.value(-999, -998), a * 998001 + b * 997002 + c * 996004);
-        numberAt(x, edges[1]);
+        x.go(1, 21);
         due("value(1, 0) beyond the bound", x.value(1, 0), MarkovTree.HIDDEN);
         due("value(0, 0) beyond the bound", x.value(0, 0), MarkovTree.HIDDEN);
     }
 
     private static void roundAndLeast() {
         MarkovTree x = new MarkovTree();
-        promise = "17";
+        about = "promise 17";
         due("round of 1 by 1", x.round(), 4);
-        promise = "18";
+        about = "promise 18";
         due("least of 1 by 1", x.least(), 5);
-        for (int p = 1; p < 22; p++) {
-            for (int q = 1; p + q <= 22; q++) {
-                if (x.go(p, q) >= 0) {
-                    boolean has = x.triple(2) <= 1000000000L;
-                    promise = "17";
-                    // each letter of the WORD has two partial quotients, each one a form
-                    due("round of " + p + " by " + q, x.round(), has ? 2 * (p + q) : -1);
-                    promise = "18";
-                    due("least of " + p + " by " + q, x.least(), has ? x.triple(2) : -1);
-                }
-            }
-        }
-        x.go(1, 1);
-        due("least without a round ahead of it", x.least(), 5);
-        promise = "15";
+        atEach((y, p, q) -> {
+            boolean has = y.triple(2) <= 1000000000L;
+            about = "promise 17";
+            // each letter of the WORD has two partial quotients, each one a form
+            due("round of " + p + " by " + q, y.round(), has ? 2 * (p + q) : -1);
+            about = "promise 18";
+            due("least of " + p + " by " + q, y.least(), has ? y.triple(2) : -1);
+        });
+        due("least without a round ahead of it", new MarkovTree().least(), 5);
+        about = "promise 15";
         dueForm(x, 5, 9, -7);
         x.round();
         dueForm(x, 5, 9, -7);
@@ -627,26 +489,26 @@ public final class PromiseTests {
         long[] numbers = {1, 2, 5, 13, 29, 34, 89, 169, 194, 233, 433, 610, 985, 1325, 1597, 2897, 4181, 5741, 6466, 7561, 9077, 10946,
             14701, 28657, 33461, 37666, 43261, 51641, 62210, 75025, 96557};
         for (int i = 0; i < numbers.length; i++) {
-            promise = "19";
+            about = "promise 19";
             due("upTo(" + numbers[i] + ")", x.upTo(numbers[i]), i + 1);
             due("upTo(" + (numbers[i] - 1) + ")", x.upTo(numbers[i] - 1), i == 0 ? -1 : i);
-            promise = "20";
+            about = "promise 20";
             due("markov(" + i + ")", x.markov(i), numbers[i]);
-            promise = "21";
+            about = "promise 21";
             due("rank(" + numbers[i] + ")", x.rank(numbers[i]), i);
         }
-        promise = "19";
+        about = "promise 19";
         due("upTo(the bound)", x.upTo(BOUND), 152);
         due("upTo(the bound less 1)", x.upTo(BOUND - 1), 152);
         for (long n : new long[] {0, -1, BOUND + 1, Long.MIN_VALUE, Long.MAX_VALUE}) {
             due("upTo(" + n + ")", x.upTo(n), -1);
         }
-        promise = "20";
+        about = "promise 20";
         due("markov(151)", x.markov(151), 982145940029L);
         for (int rank : new int[] {152, -1, Integer.MIN_VALUE, Integer.MAX_VALUE}) {
             due("markov(" + rank + ")", x.markov(rank), -1);
         }
-        promise = "21";
+        about = "promise 21";
         due("rank(the last)", x.rank(982145940029L), 151);
         // the next MARKOV number behind the bound is none of those that have a RANK here
         for (long n : new long[] {0, -1, 3, 4, 6, 96556, BOUND, BOUND + 1, 1135 * BOUND, Long.MIN_VALUE, Long.MAX_VALUE, fibonacci(61), fibonacci(91)}) {
@@ -655,20 +517,9 @@ public final class PromiseTests {
         due("rank(Fibonacci's 57th)", x.rank(fibonacci(57)), x.upTo(fibonacci(57)) - 1);
     }
 
-    private static long fibonacci(int n) {
-        long a = 0;
-        long b = 1;
-        for (int i = 0; i < n; i++) {
-            long next = a + b;
-            a = b;
-            b = next;
-        }
-        return a;
-    }
-
     private static void triplesAndWith() {
         MarkovTree x = new MarkovTree();
-        promise = "22";
+        about = "promise 22";
         due("triples(433) as the first call", new MarkovTree().triples(433), 1);
         for (int i = 2; i < 152; i++) {
             due("triples of rank " + i, x.triples(x.markov(i)), 1);
@@ -676,7 +527,7 @@ public final class PromiseTests {
         for (long n : new long[] {1, 2, 3, 0, -1, 6, BOUND, BOUND + 1, Long.MIN_VALUE, Long.MAX_VALUE, fibonacci(61)}) {
             due("triples(" + n + ")", x.triples(n), -1);
         }
-        promise = "23";
+        about = "promise 23";
         due("with(433, 1) as the first call", new MarkovTree().with(433, 1), 29);
         long[][] want = {{5, 1, 2, 2}, {13, 1, 5, 3}, {29, 2, 5, 3}, {34, 1, 13, 4}, {194, 5, 13, 4}, {433, 5, 29, 4}, {169, 2, 29, 4},
             {1325, 13, 34, 5}, {7561, 13, 194, 5}, {fibonacci(57), 1, fibonacci(55), 28}};
@@ -694,7 +545,8 @@ public final class PromiseTests {
             }
         }
         for (int i = 2; i < 152; i++) {
-            dueTripleOf(x, x.markov(i));
+            MarkovTree y = new MarkovTree();
+            dueTripleOf(y, y.markov(i));
         }
     }
 
@@ -723,20 +575,16 @@ public final class PromiseTests {
     }
 
     private static void spread() {
-        promise = "24";
-        MarkovTree x = new MarkovTree();
-        due("spread of 1 by 1", x.spread(), 1091399844);
-        for (int p = 1; p < 22; p++) {
-            for (int q = 1; p + q <= 22; q++) {
-                x.go(p, q);
-                float m = (float) x.triple(2);
-                due("spread of " + p + " by " + q, x.spread(), Float.floatToIntBits(9.0f - 4.0f / (m * m)));
-            }
-        }
+        about = "promise 24";
+        due("spread of 1 by 1", new MarkovTree().spread(), 1091399844);
+        atEach((x, p, q) -> {
+            float m = (float) x.triple(2);
+            due("spread of " + p + " by " + q, x.spread(), Float.floatToIntBits(9.0f - 4.0f / (m * m)));
+        });
     }
 
     private static void marking() {
-        promise = "25";
+        about = "promise 25";
         MarkovTree x = new MarkovTree();
         for (int q = 1; q <= 16; q++) {
             x.go(1, q);
@@ -748,7 +596,7 @@ public final class PromiseTests {
         x.go(1, 17);
         due("mark a seventeenth", x.mark(), -1);
         due("now(7)", x.now(7), 16);
-        promise = "26";
+        about = "promise 26";
         due("unmark one that has none", x.unmark(), 1);
         x.go(1, 5);
         due("unmark", x.unmark(), 0);
@@ -758,18 +606,18 @@ public final class PromiseTests {
         due("the one behind it", x.marked(4, 2), 6);
         due("the last one", x.marked(14, 2), 16);
         due("behind the last one", x.marked(15, 2), -1);
-        promise = "25";
+        about = "promise 25";
         x.go(1, 17);
         due("mark a sixteenth", x.mark(), 0);
         due("the last one", x.marked(15, 2), 17);
-        promise = "26";
+        about = "promise 26";
         x.go(1, 1);
         due("unmark the first", x.unmark(), 0);
         due("the first one", x.marked(0, 2), 2);
     }
 
     private static void markedAndNear() {
-        promise = "27";
+        about = "promise 27";
         MarkovTree x = new MarkovTree();
         int[][] places = {{3, 2}, {1, 2}, {2, 3}, {2, 1}, {21, 1}};
         for (int[] f : places) {
@@ -790,7 +638,7 @@ public final class PromiseTests {
                 due("marked(" + i + ", " + what + ")", x.marked(i, what), -1);
             }
         }
-        promise = "28";
+        about = "promise 28";
         long[][] nears = {{12, -1, 13}, {13, 13, 13}, {14, 13, 29}, {193, 29, 194}, {194, 194, 194}, {195, 194, 433}, {433, 433, 433},
             {434, 433, pell(43)}, {pell(43), pell(43), pell(43)}, {pell(43) + 1, pell(43), -1}, {0, -1, 13}, {-5, -1, 13},
             {Long.MIN_VALUE, -1, 13}, {Long.MAX_VALUE, pell(43), -1}};
@@ -807,7 +655,7 @@ public final class PromiseTests {
     }
 
     private static void jump() {
-        promise = "29";
+        about = "promise 29";
         MarkovTree x = new MarkovTree();
         due("jump(0) without MARKS", x.jump(0), -1);
         x.mark();
@@ -829,17 +677,17 @@ public final class PromiseTests {
     }
 
     private static void told() {
-        promise = "30";
+        about = "promise 30";
         MarkovTree x = new MarkovTree();
         due("byteAt(0) ahead of any", x.byteAt(0), -1);
         dueTold(x, "at 1 by 1", "");
         String[] paths = {"l", "r", "l2", "l20", "r20", "r9", "l10", "r18", "l19", "lr", "rlrlr", "l2r", "l6r2", "rl9", "l3r4", "r2lr"};
         for (String p : paths) {
-            go(x, "h" + p);
+            pathOf(x, "h" + p);
             dueTold(x, "after " + p, p);
         }
-        promise = "31";
-        go(x, "hl2r");
+        about = "promise 31";
+        pathOf(x, "hl2r");
         x.told();
         x.go(1, 1);
         x.mark();
@@ -854,7 +702,7 @@ public final class PromiseTests {
     }
 
     private static void drawn() {
-        promise = "32";
+        about = "promise 32";
         MarkovTree x = new MarkovTree();
         for (int n : new int[] {0, 61, -1, Integer.MIN_VALUE, Integer.MAX_VALUE}) {
             due("drawn(" + n + ", 1)", x.drawn(n, 1), -1);
@@ -890,14 +738,6 @@ public final class PromiseTests {
         due("now(7)", x.now(7), 16);
     }
 
-    private static int seedFor(int draw) {
-        for (int seed = -1000; ; seed++) {
-            if ((seed * 1103515245 + 12345 >>> 8) % 8 == draw) {
-                return seed;
-            }
-        }
-    }
-
     private static void dueDrawn(int n, int seed) {
         MarkovTree x = new MarkovTree();
         MarkovTree y = new MarkovTree();
@@ -921,7 +761,7 @@ public final class PromiseTests {
     }
 
     private static void undo() {
-        promise = "33";
+        about = "promise 33";
         MarkovTree x = new MarkovTree();
         due("undo of nothing", x.undo(), -1);
         for (int i = 0; i < 11; i++) {
@@ -943,9 +783,9 @@ public final class PromiseTests {
         due("unmark", x.unmark(), 1);
         due("go", x.go(2, 2), -1);
         due("jump", x.jump(0), -1);
-        go(x, "x");
-        go(x, "l");
-        go(x, "");
+        pathOf(x, "x");
+        pathOf(x, "l");
+        pathOf(x, "");
         x.drawn(1, seedFor(2));
         x.drawn(0, 0);
         for (int i = 7; i >= 0; i--) {
@@ -961,7 +801,7 @@ public final class PromiseTests {
     }
 
     private static void undoOfEachAct() {
-        promise = "33";
+        about = "promise 33";
         dueUndone("left()", x -> x.left());
         dueUndone("right()", x -> x.right());
         dueUndone("up()", x -> x.up());
@@ -982,7 +822,7 @@ public final class PromiseTests {
 
     private static long goOnTape(MarkovTree x, String text) {
         x.end(0);
-        long answer = go(x, text);
+        long answer = pathOf(x, text);
         x.feed(0, 0, 0, 0, 0);
         return answer;
     }
@@ -1020,13 +860,13 @@ public final class PromiseTests {
     }
 
     private static void imageAndRestore() {
-        promise = "34";
+        about = "promise 34";
         MarkovTree x = new MarkovTree();
         for (int k : new int[] {-1, 2, Integer.MIN_VALUE, Integer.MAX_VALUE}) {
             due("image(" + k + ")", x.image(k), false);
             due("restore(" + k + ")", x.restore(k), false);
         }
-        promise = "35";
+        about = "promise 35";
         due("restore(0) of nothing", x.restore(0), false);
         due("restore(1) of nothing", x.restore(1), false);
         x.go(2, 3);
@@ -1040,7 +880,7 @@ public final class PromiseTests {
         x.left();
         due("image(1)", x.image(1), true);
         x.go(1, 1);
-        go(x, "l0");
+        pathOf(x, "l0");
         x.feed(1, 2, 3, 4, 5);
         x.go(1, 3);
         x.told();
@@ -1074,7 +914,7 @@ public final class PromiseTests {
     }
 
     private static void throwingChangesNothing() {
-        promise = "11, 14, 15";
+        about = "promise 11, 14, 15";
         MarkovTree x = new MarkovTree();
         x.go(13, 9);
         x.mark();
